@@ -650,7 +650,7 @@ public final class TensionNet {
         }
 
         void trim(int length) {
-            size = fit(length);
+            size = length < parts.length ? length : parts.length;
             for (int i = size - 1; i >= 0 && parts[i] == 0; i--) {
                 size = i;
             }
@@ -741,7 +741,7 @@ public final class TensionNet {
         private final Whole one = new Whole(ROOM);
         private final Whole two = new Whole(ROOM);
 
-        /** Leaves the quotient in its place, and what is over, without sign, in rest. Does not divide by 0. */
+        /** Leaves the quotient in its place, and what is over, whose sign is free, in rest. Does not divide by 0. */
         void divide(Whole rest, Whole by) {
             quotient.clear();
             if (by.size == 0 || rest.compareSize(by) < 0) {
@@ -770,7 +770,6 @@ public final class TensionNet {
             quotient.below = below;
             rest.trim(length);
             rest.shrink(stretch);
-            rest.below = false;
         }
 
         private int takeDigit(int[] rest, int at) {
@@ -1152,6 +1151,9 @@ public final class TensionNet {
 
         // The ray and the one against it are tried at once; neither is in the cone if both signs are met.
         private void tryRay(Triple tried) {
+            if (tried.isNought()) {
+                return;
+            }
             int side = 0;
             for (int m = 0; m < members; m++) {
                 signs[m] = signOfProduct(asked[m], tried);

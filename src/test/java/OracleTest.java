@@ -75,18 +75,23 @@ public final class OracleTest {
         List<Long> list = new ArrayList<>();
         list.add((long) joints);
         int[][] place = new int[joints][2];
+        int free = 0;
         for (int j = 0; j < joints; j++) {
             place[j][0] = line ? 2 * j - 7 : pick(-far, far);
             place[j][1] = line ? 3 : pick(-far, far);
             list.add((long) place[j][0]);
             list.add((long) place[j][1]);
             boolean end = line && (j == 0 || j == joints - 1);
-            list.add(end || pick(1, 10) <= fixedOfTen ? 1L : 0L);
+            boolean fixed = end || pick(1, 10) <= fixedOfTen;
+            free += fixed ? 0 : 1;
+            list.add(fixed ? 1L : 0L);
         }
         int sorts = pick(0, 3);
         int mostSort = sorts == 0 ? 2 : sorts == 3 ? 1 : sorts;
         int leastSort = sorts == 1 ? 1 : sorts == 3 ? 0 : sorts;
-        int count = pick(0, 3) == 0 ? pick(0, most) : most;
+        // Tightness is told of few stresses alone: so most nets have not many members more than moves.
+        int aim = pick(0, 3);
+        int count = aim == 0 ? pick(0, most) : aim == 1 ? most : Math.min(most, Math.max(0, 2 * free + pick(-1, 3)));
         List<Long> ends = new ArrayList<>();
         int made = 0;
         for (int tries = 0; tries < 200 && made < count; tries++) {
@@ -113,6 +118,10 @@ public final class OracleTest {
         int stresses = judgeStresses();
         int ways = judgeWays();
         judgeTight(stresses);
+        for (int round = 0; round < 6 && stresses > 0 && stresses <= 3; round++) {
+            tellSorts(round, stresses);
+            judgeTight(stresses);
+        }
         for (int round = 0; round < 4; round++) {
             tellPulls(round, stresses);
             tellLoads(round);
@@ -267,7 +276,7 @@ public final class OracleTest {
                 }
             }
             due = canAllBeAbove(asked, stresses) ? 1 : 0;
-            SEEN[10] += stresses == 3 && due == 1 ? 1 : 0;
+            SEEN[10] += stresses == 3 && asked.size() > 3 && due == 1 ? 1 : 0;
         }
         Check.due("tight", bench.tight(), due);
         SEEN[due == -7 ? 2 : due]++;
@@ -296,7 +305,23 @@ public final class OracleTest {
         return canAllBeAbove(less, last);
     }
 
-    private void tellPulls(int round, int stresses) {
+    // Sorts that a mixture of stresses makes tight, in some rounds but for one member.
+    private void tellSorts(int round, int stresses) {
+        Q[] mix = mixture(stresses);
+        for (int m = 0; m < members; m++) {
+            sort[m] = mix[m].sign() == 0 || pick(0, 9) == 0 ? 0 : mix[m].sign() > 0 ? 1 : 2;
+        }
+        if (round % 3 == 2) {
+            int m = pick(0, members - 1);
+            sort[m] = sort[m] == 0 ? pick(1, 2) : 3 - sort[m];
+        }
+        for (int m = 0; m < members; m++) {
+            Check.due("write", bench.write(0, 4 + 3 * joints + 3 * m, sort[m]), 0);
+        }
+        Check.due("net of other sorts", bench.net(0), members);
+    }
+
+    private Q[] mixture(int stresses) {
         Q[] mix = new Q[members];
         for (int m = 0; m < members; m++) {
             mix[m] = Q.of(0);
@@ -308,6 +333,11 @@ public final class OracleTest {
                 mix[m] = mix[m].plus(Q.told(bench).times(times));
             }
         }
+        return mix;
+    }
+
+    private void tellPulls(int round, int stresses) {
+        Q[] mix = mixture(stresses);
         BigInteger common = BigInteger.ONE;
         for (Q q : mix) {
             common = common.multiply(q.bottom.divide(q.bottom.gcd(common)));

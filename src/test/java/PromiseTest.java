@@ -298,6 +298,25 @@ public final class PromiseTest {
         Check.due("5 its tight", x.tight(), 0);
         Check.due("5 its borne", x.borne(), 2);
         Check.due("5 its leading", x.told(1, 14), 0);
+        tellAll(x, 9);
+        Check.due("5 shaped", x.shaped(), true);
+        Check.due("5 two by turns", x.net(7) + x.net(1), 4);
+        Check.due("5 no shape any more", x.shaped(), false);
+        for (int round = 0; round < 4; round++) {
+            tellAll(x, 7 + round);
+            Check.due("5 once more", x.net(round % 2 == 0 ? 7 : 1), 2);
+            for (int k = 0; k < 3; k++) {
+                Check.due("5 all loads are 0", x.told(k, 3) == 0 && x.told(k, 4) == 0, true);
+                Check.due("5 all pulls are 0", x.told(k, 13), 0);
+            }
+        }
+    }
+
+    private static void tellAll(TensionNet x, int v) {
+        for (int k = 0; k < 3; k++) {
+            x.load(k, v, v + 1);
+            x.pull(k, v);
+        }
     }
 
     private static void load() {
@@ -554,6 +573,8 @@ public final class PromiseTest {
         Check.result("17 the result stays", x, 0, 1);
         x.pull(0, 5);
         Check.result("17 another pull", x, x.shape(2, 1), -5, 7);
+        x.load(2, 4, -6);
+        Check.result("17 another load", x, x.shape(2, 1), -6, 7);
         // Two free joints between fixed ends: thirds of the way.
         TensionNet y = Check.bench(4, 0, 0, 1, 5, 5, 0, 9, 9, 0, 7, -10, 1, 3, 0, 1, 1, 1, 2, 1, 2, 3, 1);
         y.pull(0, 2);
@@ -598,6 +619,9 @@ public final class PromiseTest {
         // Cables among fixed joints alone, each a stress of its own.
         Check.due("18 among fixed joints", Check.bench(3, 0, 0, 1, 1, 0, 1, 0, 1, 1,
                 3, 0, 1, 1, 0, 2, 2, 1, 2, 1).tight(), 1);
+        // Three stresses, but of cables and struts only two, and the first of them are bound to each other.
+        Check.due("18 a bar's stress beside two", Check.bench(5, 0, 0, 0, 1, 0, 1, -1, 0, 1, 5, 5, 1, 6, 5, 1,
+                4, 0, 1, 1, 0, 2, 1, 3, 4, 2, 3, 4, 0).tight(), 1);
         Check.due("18 a stress of bars beside", Check.bench(5, 0, 0, 0, 1, 0, 1, -1, 0, 1, 5, 5, 1, 6, 5, 1,
                 3, 0, 1, 1, 0, 2, 1, 3, 4, 0).tight(), 1);
         Check.due("18 two stresses of bars beside", Check.bench(5, 0, 0, 0, 1, 0, 1, -1, 0, 1, 5, 5, 1, 6, 5, 1,
