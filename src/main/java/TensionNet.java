@@ -34,7 +34,8 @@ public final class TensionNet {
     private static final int CELL = 5;
     // The sums that tell stiffness are below 10^59, so their minors of order three are below 10^178: twenty parts.
     private static final int FORM_CELL = 24;
-    // A step of a reduction multiplies two minors of order two of those sums (10^236) before it divides.
+    // The last step of their reduction multiplies a minor of order three by one of order two before it divides, which
+    // is below 10^297: thirty-three parts, and the division stretches it by one more.
     private static final int ROOM = 36;
 
     private final Slots slots = new Slots();
@@ -256,7 +257,8 @@ public final class TensionNet {
 
     public int told(int k, int what) {
         if (what == 14) {
-            return isLed(k) ? 1 : 0;
+            knowForces(false);
+            return net.hasMember(k) && forces.rowOf[k] != NONE ? 1 : 0;
         }
         return what < 10 ? net.ofJoint(k, what) : net.ofMember(k, what);
     }
@@ -286,14 +288,6 @@ public final class TensionNet {
 
     private static boolean isStrength(int v) {
         return v >= -STRONGEST && v <= STRONGEST;
-    }
-
-    private boolean isLed(int member) {
-        if (!net.hasMember(member)) {
-            return false;
-        }
-        knowForces(false);
-        return forces.rowOf[member] != NONE;
     }
 
     private void forgetNet() {
@@ -536,7 +530,7 @@ public final class TensionNet {
             }
         }
 
-        /** A row and a column for each free joint, as x and y have the same factors, and a column more for each axis. */
+        /** A row and a column for each free joint, as x and y have the same factors, and a column for each axis. */
         void fillPlaces(Grid grid) {
             grid.begin(free, free, 2);
             for (int m = 0; m < members; m++) {

@@ -10,7 +10,8 @@ public final class LanguageTest {
     private static final String[] REFUSED = {
         "\\bthrows?\\b", "\\btry\\b", "\\bcatch\\b", "\\bfinally\\b", "\\bsynchronized\\b", "\\bassert\\b", "->", "::",
         "\\bpackage\\b", "\\bprotected\\b", "\\bdouble\\b", "\\bfloat\\b", "\\bvar\\b", "\\bwhile\\b", "Exact\\b",
-        "\\bstatic\\s*\\{", "\\bSystem\\.(?!arraycopy\\b)", "\\bThread\\b", "\\bBig(Integer|Decimal)\\b", "\\bRandom\\b",
+        "\\bstatic\\s*\\{", "\\bSystem\\.(?!arraycopy\\b)", "\\bThread\\b", "\\bBig(Integer|Decimal)\\b",
+        "\\bRandom\\b",
         "\\b(equals|hashCode|toString|getClass)\\s*\\(", "\\binstanceof\\b", "\\[\\]\\s*\\[\\]\\s*\\[\\]",
         "\\bimport\\s+(?!java\\.util\\.Arrays;)", "\\bArrays\\.(?!fill\\b)", "\\bMath\\.(?!(abs|min|max)\\b)",
         "\\bInteger\\.(?!signum\\b)", "\\bLong\\b", "\\bString\\b"};
