@@ -275,34 +275,11 @@ public final class OracleTest {
                     asked.add(row);
                 }
             }
-            due = canAllBeAbove(asked, stresses) ? 1 : 0;
+            due = Q.canAllBeAbove(asked, stresses) ? 1 : 0;
             SEEN[10] += stresses == 3 && asked.size() > 3 && due == 1 ? 1 : 0;
         }
         Check.due("tight", bench.tight(), due);
         SEEN[due == -7 ? 2 : due]++;
-    }
-
-    private static boolean canAllBeAbove(List<Q[]> rows, int unknowns) {
-        if (unknowns == 0) {
-            return rows.isEmpty();
-        }
-        int last = unknowns - 1;
-        List<Q[]> less = new ArrayList<>();
-        for (Q[] one : rows) {
-            if (one[last].sign() == 0) {
-                less.add(one);
-            }
-            for (Q[] two : rows) {
-                if (one[last].sign() > 0 && two[last].sign() < 0) {
-                    Q[] row = new Q[unknowns];
-                    for (int i = 0; i < unknowns; i++) {
-                        row[i] = two[i].times(one[last]).minus(one[i].times(two[last]));
-                    }
-                    less.add(row);
-                }
-            }
-        }
-        return canAllBeAbove(less, last);
     }
 
     // Sorts that a mixture of stresses makes tight, in some rounds but for one member.
@@ -479,95 +456,13 @@ public final class OracleTest {
                 }
             }
         }
-        for (int i = 0; i < ways; i++) {
-            if (form[i][i].sign() <= 0) {
-                return false;
-            }
-            for (int r = i + 1; r < ways; r++) {
-                Q times = form[r][i].over(form[i][i]);
-                for (int c = 0; c < ways; c++) {
-                    form[r][c] = form[r][c].minus(times.times(form[i][c]));
-                }
-            }
-        }
-        return true;
+        return Q.isAboveNought(form);
     }
 
     private void due(String what, Q got, Q want) {
         if (!got.top.equals(want.top) || !got.bottom.equals(want.bottom)) {
             Check.wrong(what + " is " + got.top + "/" + got.bottom + ", due is " + want.top + "/" + want.bottom
                     + " in " + java.util.Arrays.toString(numbers));
-        }
-    }
-
-    /** A fraction in lowest terms. */
-    private static final class Q {
-        final BigInteger top;
-        final BigInteger bottom;
-
-        private Q(BigInteger top, BigInteger bottom) {
-            BigInteger common = top.gcd(bottom).multiply(BigInteger.valueOf(bottom.signum()));
-            this.top = top.divide(common);
-            this.bottom = bottom.divide(common);
-        }
-
-        static Q of(long v) {
-            return new Q(BigInteger.valueOf(v), BigInteger.ONE);
-        }
-
-        static Q told(TensionNet bench) {
-            BigInteger top = Check.top(bench);
-            BigInteger bottom = Check.bottom(bench);
-            Check.due("bottom is above 0", bottom.signum(), 1);
-            Check.due("lowest terms", top.gcd(bottom).equals(BigInteger.ONE), true);
-            return new Q(top, bottom);
-        }
-
-        int sign() {
-            return top.signum();
-        }
-
-        Q plus(Q q) {
-            return new Q(top.multiply(q.bottom).add(q.top.multiply(bottom)), bottom.multiply(q.bottom));
-        }
-
-        Q minus(Q q) {
-            return new Q(top.multiply(q.bottom).subtract(q.top.multiply(bottom)), bottom.multiply(q.bottom));
-        }
-
-        Q times(Q q) {
-            return new Q(top.multiply(q.top), bottom.multiply(q.bottom));
-        }
-
-        Q over(Q q) {
-            return new Q(top.multiply(q.bottom), bottom.multiply(q.top));
-        }
-
-        static int rank(Q[][] rows) {
-            int rank = 0;
-            int columns = rows.length == 0 ? 0 : rows[0].length;
-            for (int c = columns - 1; c >= 0 && rank < rows.length; c--) {
-                int found = rank;
-                while (found < rows.length && rows[found][c].sign() == 0) {
-                    found++;
-                }
-                if (found == rows.length) {
-                    continue;
-                }
-                Q[] pivot = rows[found];
-                rows[found] = rows[rank];
-                rows[rank] = pivot;
-                for (int r = rank + 1; r < rows.length; r++) {
-                    if (rows[r][c].sign() != 0) {
-                        Q times = rows[r][c].over(pivot[c]);
-                        for (int k = 0; k <= c; k++) {
-                            rows[r][k] = rows[r][k].minus(times.times(pivot[k]));
-                        }
-                    }
-                }
-                rank++;
-            }
-            return rank;
         }
     }
 }

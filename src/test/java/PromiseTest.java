@@ -38,43 +38,6 @@ public final class PromiseTest {
         Check.end();
     }
 
-    // A joint in the middle of two fixed ones in a line; the sorts of its two members are told.
-    private static TensionNet line(int one, int two) {
-        return Check.bench(3, 0, 0, 1, 4, 0, 1, 2, 0, 0, 2, 0, 2, one, 2, 1, two);
-    }
-
-    // A roof of two bars over two fixed joints.
-    private static TensionNet roof() {
-        return Check.bench(3, 0, 0, 1, 4, 0, 1, 2, 1, 0, 2, 0, 2, 0, 1, 2, 0);
-    }
-
-    // Joints 0 and 2 fixed, 1 and 3 free, as a square with both diagonals, and its first side twice.
-    private static TensionNet square() {
-        return Check.bench(4, 0, 0, 1, 3, 0, 0, 3, 3, 1, 0, 3, 0,
-                7, 0, 1, 0, 1, 2, 0, 2, 3, 0, 3, 0, 0, 0, 2, 1, 1, 3, 1, 1, 0, 2);
-    }
-
-    // A free joint at 0, 0 with members of the told sorts to fixed joints on both sides in a line.
-    private static TensionNet star(int... sorts) {
-        long[] numbers = new long[1 + 3 * (sorts.length + 1) + 1 + 3 * sorts.length];
-        int at = 0;
-        numbers[at++] = sorts.length + 1;
-        at += 3;
-        int[] x = {1, -1, 2, -3, 4};
-        for (int i = 0; i < sorts.length; i++) {
-            numbers[at++] = x[i];
-            numbers[at++] = 0;
-            numbers[at++] = 1;
-        }
-        numbers[at++] = sorts.length;
-        for (int i = 0; i < sorts.length; i++) {
-            numbers[at++] = 0;
-            numbers[at++] = i + 1;
-            numbers[at++] = sorts[i];
-        }
-        return Check.bench(numbers);
-    }
-
     private static void newObject() {
         TensionNet x = new TensionNet();
         Check.due("1 NONE", TensionNet.NONE, -1);
@@ -274,7 +237,7 @@ public final class PromiseTest {
     }
 
     private static void netInPlaceOfAnother() {
-        TensionNet x = roof();
+        TensionNet x = Nets.roof();
         x.load(2, 3, 4);
         x.pull(1, 5);
         x.bears(1);
@@ -320,7 +283,7 @@ public final class PromiseTest {
     }
 
     private static void load() {
-        TensionNet x = roof();
+        TensionNet x = Nets.roof();
         int[] joints = {-1, 3, LOW, HIGH};
         for (int joint : joints) {
             Check.due("6 joint", x.load(joint, 1001, 0), -2);
@@ -345,7 +308,7 @@ public final class PromiseTest {
     }
 
     private static void pull() {
-        TensionNet x = roof();
+        TensionNet x = Nets.roof();
         int[] members = {-1, 2, LOW, HIGH};
         for (int member : members) {
             Check.due("7 member", x.pull(member, 1001), -2);
@@ -361,14 +324,14 @@ public final class PromiseTest {
     }
 
     private static void stresses() {
-        Check.due("8 roof", roof().stresses(), 0);
-        Check.due("8 line", line(0, 0).stresses(), 1);
-        Check.due("8 square", square().stresses(), 3);
-        Check.due("8 star", star(0, 0, 0, 0).stresses(), 3);
+        Check.due("8 roof", Nets.roof().stresses(), 0);
+        Check.due("8 line", Nets.line(0, 0).stresses(), 1);
+        Check.due("8 square", Nets.square().stresses(), 3);
+        Check.due("8 star", Nets.star(0, 0, 0, 0).stresses(), 3);
         Check.due("8 fixed ends alone",
                 Check.bench(2, 0, 0, 1, 1, 0, 1, 2, 0, 1, 0, 1, 0, 1).stresses(), 2);
         Check.due("8 free ends alone", Check.bench(2, 0, 0, 0, 1, 0, 0, 2, 0, 1, 0, 1, 0, 1).stresses(), 1);
-        TensionNet x = roof();
+        TensionNet x = Nets.roof();
         x.load(2, 1, 1);
         x.pull(0, 1);
         Check.due("8 loads and pulls do not matter", x.stresses(), 0);
@@ -376,7 +339,7 @@ public final class PromiseTest {
 
     private static void stress() {
         // The members reach to 1, -1, 2 and -3: the first is led by the others.
-        TensionNet x = star(0, 0, 0, 0);
+        TensionNet x = Nets.star(0, 0, 0, 0);
         long[][] due = {{1, 1, 0, 0}, {-2, 0, 1, 0}, {3, 0, 0, 1}};
         for (int i = 0; i < 3; i++) {
             for (int m = 0; m < 4; m++) {
@@ -397,14 +360,14 @@ public final class PromiseTest {
         Check.result("9 a fraction", y, y.stress(0, 0), 7, 3);
         TensionNet z = Check.bench(3, 0, 0, 0, 3, 0, 1, 7, 0, 1, 2, 0, 1, 0, 0, 2, 0);
         Check.result("9 a fraction below 0", z, z.stress(0, 0), -7, 3);
-        Check.due("9 none at all", roof().stress(0, 0), false);
+        Check.due("9 none at all", Nets.roof().stress(0, 0), false);
         Check.due("9 none of a new one", new TensionNet().stress(0, 0), false);
     }
 
     private static void ways() {
-        Check.due("10 roof", roof().ways(), 0);
-        Check.due("10 line", line(1, 1).ways(), 1);
-        Check.due("10 square", square().ways(), 0);
+        Check.due("10 roof", Nets.roof().ways(), 0);
+        Check.due("10 line", Nets.line(1, 1).ways(), 1);
+        Check.due("10 square", Nets.square().ways(), 0);
         Check.due("10 free bar", Check.bench(2, 0, 0, 0, 1, 0, 0, 1, 0, 1, 0).ways(), 3);
         Check.due("10 eight free", Check.bench(8, 0, 0, 0, 0, 0, 0, 0, 0, 0, 0, 0, 0, 0, 0, 0, 0, 0, 0, 0, 0, 0,
                 0, 0, 0, 0).ways(), 16);
@@ -432,14 +395,14 @@ public final class PromiseTest {
             Check.due("11 no axis", x.way(0, 0, k), false);
         }
         Check.result("11 the result stays", x, 2, 3);
-        TensionNet y = line(1, 1);
+        TensionNet y = Nets.line(1, 1);
         Check.result("11 free", y, y.way(0, 2, 1), 1, 1);
         Check.result("11 fixed", y, y.way(0, 0, 1), 0, 1);
-        Check.due("11 no way at all", roof().way(0, 2, 0), false);
+        Check.due("11 no way at all", Nets.roof().way(0, 2, 0), false);
     }
 
     private static void even() {
-        TensionNet x = roof();
+        TensionNet x = Nets.roof();
         Check.due("12 at first", x.even(), true);
         x.load(2, 0, -10);
         Check.due("12 loaded", x.even(), false);
@@ -462,7 +425,7 @@ public final class PromiseTest {
     }
 
     private static void left() {
-        TensionNet x = roof();
+        TensionNet x = Nets.roof();
         x.pull(0, 3);
         x.pull(1, -4);
         x.load(2, 100, -200);
@@ -488,10 +451,10 @@ public final class PromiseTest {
     }
 
     private static void borne() {
-        TensionNet x = roof();
+        TensionNet x = Nets.roof();
         x.load(2, 3, 4);
         Check.due("14 one", x.borne(), 1);
-        TensionNet y = line(0, 0);
+        TensionNet y = Nets.line(0, 0);
         Check.due("14 nothing to bear, many", y.borne(), 2);
         y.load(2, 0, 1);
         Check.due("14 across", y.borne(), 0);
@@ -512,7 +475,7 @@ public final class PromiseTest {
     }
 
     private static void bears() {
-        TensionNet x = roof();
+        TensionNet x = Nets.roof();
         x.load(2, 3, 5);
         // -2 p + 2 q + 3 = 0 and -p - q + 5 = 0.
         Check.result("15 first", x, x.bears(0), 13, 4);
@@ -524,7 +487,7 @@ public final class PromiseTest {
         Check.result("15 the result stays", x, 7, 4);
         x.load(2, 0, 0);
         Check.result("15 other loads", x, x.bears(0), 0, 1);
-        TensionNet y = line(0, 0);
+        TensionNet y = Nets.line(0, 0);
         y.load(2, 7, 0);
         Check.result("15 led", y, y.bears(0), 7, 2);
         Check.result("15 free", y, y.bears(1), 0, 1);
@@ -534,7 +497,7 @@ public final class PromiseTest {
     }
 
     private static void shaped() {
-        TensionNet x = roof();
+        TensionNet x = Nets.roof();
         Check.due("16 no pull", x.shaped(), false);
         x.pull(0, 1);
         Check.due("16 a pull", x.shaped(), true);
@@ -551,7 +514,7 @@ public final class PromiseTest {
     }
 
     private static void shape() {
-        TensionNet x = roof();
+        TensionNet x = Nets.roof();
         Check.due("17 no shape", x.shape(2, 0), false);
         Check.due("17 no shape for fixed ones", x.shape(0, 0), false);
         x.pull(0, 1);
@@ -587,26 +550,26 @@ public final class PromiseTest {
     }
 
     private static void tight() {
-        Check.due("18 two cables", line(1, 1).tight(), 1);
-        Check.due("18 two struts", line(2, 2).tight(), 1);
-        Check.due("18 a cable and a strut", line(1, 2).tight(), 0);
-        Check.due("18 a bar and a strut", line(0, 2).tight(), 1);
-        Check.due("18 two bars", line(0, 0).tight(), 1);
-        Check.due("18 no stress, bars", roof().tight(), 1);
+        Check.due("18 two cables", Nets.line(1, 1).tight(), 1);
+        Check.due("18 two struts", Nets.line(2, 2).tight(), 1);
+        Check.due("18 a cable and a strut", Nets.line(1, 2).tight(), 0);
+        Check.due("18 a bar and a strut", Nets.line(0, 2).tight(), 1);
+        Check.due("18 two bars", Nets.line(0, 0).tight(), 1);
+        Check.due("18 no stress, bars", Nets.roof().tight(), 1);
         Check.due("18 no stress, a cable", Check.bench(2, 0, 0, 0, 1, 0, 0, 1, 0, 1, 1).tight(), 0);
-        Check.due("18 three stresses", star(1, 1, 1, 1).tight(), 1);
-        Check.due("18 three stresses, one side", star(1, 2, 1, 2).tight(), 0);
-        Check.due("18 three stresses, the other", star(2, 1, 2, 1).tight(), 0);
-        Check.due("18 three stresses, a strut", star(1, 2, 2, 2).tight(), 1);
-        Check.due("18 three stresses, a bar", star(0, 2, 1, 2).tight(), 1);
-        Check.due("18 four stresses", star(1, 1, 1, 1, 1).tight(), -7);
-        Check.due("18 four stresses of bars", star(0, 0, 0, 0, 0).tight(), -7);
+        Check.due("18 three stresses", Nets.star(1, 1, 1, 1).tight(), 1);
+        Check.due("18 three stresses, one side", Nets.star(1, 2, 1, 2).tight(), 0);
+        Check.due("18 three stresses, the other", Nets.star(2, 1, 2, 1).tight(), 0);
+        Check.due("18 three stresses, a strut", Nets.star(1, 2, 2, 2).tight(), 1);
+        Check.due("18 three stresses, a bar", Nets.star(0, 2, 1, 2).tight(), 1);
+        Check.due("18 four stresses", Nets.star(1, 1, 1, 1, 1).tight(), -7);
+        Check.due("18 four stresses of bars", Nets.star(0, 0, 0, 0, 0).tight(), -7);
     }
 
     private static void tightOfFewStresses() {
-        Check.due("18 two stresses", star(1, 1, 1).tight(), 1);
-        Check.due("18 two stresses, one side", star(1, 2, 1).tight(), 0);
-        Check.due("18 two stresses, two struts", star(2, 2, 1).tight(), 1);
+        Check.due("18 two stresses", Nets.star(1, 1, 1).tight(), 1);
+        Check.due("18 two stresses, one side", Nets.star(1, 2, 1).tight(), 0);
+        Check.due("18 two stresses, two struts", Nets.star(2, 2, 1).tight(), 1);
         // Four cables from a free joint to all sides, and one that no stress reaches.
         long[] cross = {6, 0, 0, 0, 3, 1, 1, -3, 1, 1, 0, -2, 1, 1, -4, 1, 9, 9, 0,
             5, 0, 1, 1, 0, 2, 1, 0, 3, 1, 0, 4, 1, 0, 5, 1};
@@ -629,7 +592,7 @@ public final class PromiseTest {
     }
 
     private static void stiff() {
-        TensionNet x = line(1, 1);
+        TensionNet x = Nets.line(1, 1);
         Check.due("19 no pull", x.stiff(), 0);
         x.pull(0, 3);
         Check.due("19 no stress", x.stiff(), 0);
@@ -640,7 +603,7 @@ public final class PromiseTest {
         x.pull(0, -3);
         x.pull(1, -3);
         Check.due("19 pushed", x.stiff(), 0);
-        TensionNet y = roof();
+        TensionNet y = Nets.roof();
         Check.due("19 no way", y.stiff(), 1);
         y.pull(0, 1);
         Check.due("19 no way and no stress", y.stiff(), 0);
@@ -683,7 +646,7 @@ public final class PromiseTest {
     }
 
     private static void look() {
-        TensionNet x = roof();
+        TensionNet x = Nets.roof();
         int[] others = {-1, 3, LOW, HIGH};
         for (int what : others) {
             Check.due("20 another", x.look(what), -1);
@@ -697,7 +660,7 @@ public final class PromiseTest {
         x.load(2, 0, -5);
         x.left(2, 1);
         Check.due("20 below", x.look(0), -1);
-        TensionNet y = longChain();
+        TensionNet y = Nets.longChain();
         y.shape(7, 0);
         Check.due("20 sign of a long one", y.look(0), Check.top(y).signum());
         Check.due("20 parts of a long top", y.look(1), partsOf(Check.top(y).abs().toString()));
@@ -709,28 +672,6 @@ public final class PromiseTest {
         return (digits.length() + 8) / 9;
     }
 
-    // A chain of seven free joints from a fixed one on.
-    private static TensionNet longChain() {
-        long[] numbers = new long[47];
-        numbers[0] = 8;
-        for (int j = 0; j < 8; j++) {
-            numbers[1 + 3 * j] = j;
-        }
-        numbers[3] = 1;
-        numbers[25] = 7;
-        for (int m = 0; m < 7; m++) {
-            numbers[26 + 3 * m] = m;
-            numbers[27 + 3 * m] = m + 1;
-        }
-        TensionNet x = Check.bench(numbers);
-        int[] primes = {997, 991, 983, 977, 971, 967, 953};
-        for (int m = 0; m < 7; m++) {
-            x.pull(m, primes[m]);
-        }
-        x.load(7, 1000, -1000);
-        return x;
-    }
-
     private static void part() {
         TensionNet x = new TensionNet();
         Check.due("21 top of 0", x.part(false, 0), 0);
@@ -740,7 +681,7 @@ public final class PromiseTest {
             Check.due("21 no part of the top", x.part(false, i), 0);
             Check.due("21 no part of the bottom", x.part(true, i), 0);
         }
-        TensionNet y = longChain();
+        TensionNet y = Nets.longChain();
         // The end hangs by 1000 / each pull in turn: the bottom is the product of seven primes.
         y.shape(7, 1);
         BigInteger bottom = BigInteger.ONE;
@@ -784,19 +725,19 @@ public final class PromiseTest {
             }
         }
         Check.due("22 far off", x.told(0, LOW) + x.told(0, HIGH), 0);
-        TensionNet y = square();
+        TensionNet y = Nets.square();
         int[] led = {1, 1, 1, 1, 0, 0, 0};
         for (int m = 0; m < 7; m++) {
             Check.due("22 led " + m, y.told(m, 14), led[m]);
         }
-        TensionNet z = star(0, 0, 0);
+        TensionNet z = Nets.star(0, 0, 0);
         Check.due("22 led by none ahead", z.told(0, 14) * 100 + z.told(1, 14) * 10 + z.told(2, 14), 100);
         TensionNet fixed = Check.bench(2, 0, 0, 1, 1, 0, 1, 1, 0, 1, 0);
         Check.due("22 free among fixed joints", fixed.told(0, 14), 0);
     }
 
     private static void count() {
-        TensionNet x = roof();
+        TensionNet x = Nets.roof();
         Check.due("23 joints", x.count(0), 3);
         Check.due("23 free", x.count(1), 1);
         Check.due("23 members", x.count(2), 2);
