@@ -70,6 +70,30 @@ final class Check {
         return parts(bench, true, bench.look(2));
     }
 
+    /** All that can be read of a bench without a change of it: the RESULT, and what told and count answer. */
+    static String state(TensionNet bench) {
+        StringBuilder state = new StringBuilder().append(top(bench)).append('/').append(bottom(bench));
+        for (int what = 0; what < 4; what++) {
+            state.append(' ').append(bench.count(what));
+        }
+        for (int what = 0; what < 15; what++) {
+            for (int k = 0; k < 15; k++) {
+                state.append(' ').append(bench.told(k, what));
+            }
+        }
+        return state.toString();
+    }
+
+    /** That a call was refused as is due, and that nothing has changed by it. */
+    static void refused(String call, TensionNet bench, String before, long got, long want) {
+        due(call, got, want);
+        due(call + " changes nothing", state(bench).equals(before), true);
+    }
+
+    static void refused(String call, TensionNet bench, String before, boolean got) {
+        refused(call, bench, before, got ? 1 : 0, 0);
+    }
+
     private static BigInteger parts(TensionNet bench, boolean bottom, int size) {
         BigInteger sum = BigInteger.ZERO;
         for (int i = size - 1; i >= 0; i--) {
