@@ -111,4 +111,72 @@ final class Q {
         }
         return true;
     }
+
+    /** Equations with a last column for their other side, each solved for the first unknown that it can be. */
+    static final class Solved {
+        final List<Integer> free = new ArrayList<>();
+        final boolean can;
+        private final Q[][] rows;
+        private final int unknowns;
+        private final int[] rowOf;
+
+        Solved(Q[][] rows, int unknowns) {
+            this.rows = rows;
+            this.unknowns = unknowns;
+            rowOf = new int[unknowns];
+            int rank = 0;
+            for (int c = 0; c < unknowns; c++) {
+                int found = rank;
+                while (found < rows.length && rows[found][c].sign() == 0) {
+                    found++;
+                }
+                rowOf[c] = found < rows.length ? rank : -1;
+                if (found == rows.length) {
+                    free.add(c);
+                } else {
+                    solve(found, rank++, c);
+                }
+            }
+            boolean solvable = true;
+            for (int r = rank; r < rows.length; r++) {
+                solvable = solvable && rows[r][unknowns].sign() == 0;
+            }
+            can = solvable;
+        }
+
+        private void solve(int found, int to, int c) {
+            Q[] row = rows[found];
+            rows[found] = rows[to];
+            rows[to] = row;
+            Q first = row[c];
+            for (int k = 0; k <= unknowns; k++) {
+                row[k] = row[k].over(first);
+            }
+            for (Q[] other : rows) {
+                Q times = other[c];
+                for (int k = 0; k <= unknowns && other != row && times.sign() != 0; k++) {
+                    other[k] = other[k].minus(times.times(row[k]));
+                }
+            }
+        }
+
+        /** The solution without the other side that is 1 at the i-th free unknown and 0 at the other free ones. */
+        Q[] freely(int i) {
+            Q[] solution = new Q[unknowns];
+            for (int c = 0; c < unknowns; c++) {
+                solution[c] = rowOf[c] < 0 ? of(free.get(i) == c ? 1 : 0)
+                        : of(0).minus(rows[rowOf[c]][free.get(i)]);
+            }
+            return solution;
+        }
+
+        /** The solution that is 0 at the free unknowns. */
+        Q[] barely() {
+            Q[] solution = new Q[unknowns];
+            for (int c = 0; c < unknowns; c++) {
+                solution[c] = rowOf[c] < 0 ? of(0) : rows[rowOf[c]][unknowns];
+            }
+            return solution;
+        }
+    }
 }
