@@ -38,15 +38,19 @@ public final class BoundaryHoldTest {
         shapeOfNoSuchJointOrAxis();
         shapeWhereThereIsNone();
         tightIsStrict();
+        tightOfCablesAndStruts();
+        tightOfMoreStressesThanItsCablesNeed();
         tightWithoutStresses();
         tightWithoutCablesAndStruts();
         tightOfThreeOrFourStresses();
         stiffOnlyIfAStress();
         stiffIsStrict();
         stiffOfThreeWaysIsStrict();
+        stiffAlongX();
         stiffWithoutWays();
         stiffOfThreeOrFourWays();
         stiffWhateverTheLoads();
+        largestNets();
         Check.end();
     }
 
@@ -492,6 +496,32 @@ public final class BoundaryHoldTest {
         Check.due("18 five struts in just more", rays(2, 20, -1, -20, 0, 3, 1, -3, 1, 0, 20).tight(), 1);
     }
 
+    // "above 0 in each CABLE and below 0 in each STRUT": of two in a line with a free joint between, or at one side
+    private static void tightOfCablesAndStruts() {
+        for (int one = 1; one <= 2; one++) {
+            for (int two = 1; two <= 2; two++) {
+                Check.due("18 sorts " + one + ", " + two + " on two sides", Nets.line(one, two).tight(),
+                        one == two ? 1 : 0);
+                Check.due("18 sorts " + one + ", " + two + " on one side",
+                        Check.bench(3, 0, 0, 0, 1, 0, 1, 2, 0, 1, 2, 0, 1, one, 0, 2, two).tight(), one == two ? 0 : 1);
+            }
+        }
+    }
+
+    private static void tightOfMoreStressesThanItsCablesNeed() {
+        // A cross of four cables has two stresses; a bar between two fixed joints adds one that no cable needs.
+        long[] cross = {5, 0, 0, 0, 20, 0, 1, -20, 0, 1, 0, 20, 1, 0, -20, 1,
+            5, 0, 1, 1, 0, 2, 1, 0, 3, 1, 0, 4, 1, 1, 2, 0};
+        Check.due("18 a cross and a bar", Check.bench(cross).tight(), 1);
+        cross[14] = 19;
+        Check.due("18 a cross on one side and a bar", Check.bench(cross).tight(), 0);
+        cross[14] = -20;
+        cross[25] = 2;
+        Check.due("18 a cross with a strut and a bar", Check.bench(cross).tight(), 0);
+        cross[28] = 2;
+        Check.due("18 a cross with two struts and a bar", Check.bench(cross).tight(), 1);
+    }
+
     private static void tightWithoutStresses() {
         Check.due("18 a bar alone", rays(0, 1, 0).tight(), 1);
         Check.due("18 a cable alone", rays(1, 1, 0).tight(), 0);
@@ -570,6 +600,15 @@ public final class BoundaryHoldTest {
         }
     }
 
+    private static void stiffAlongX() {
+        TensionNet x = rays(1, 0, 1, 0, -1);
+        Check.due("19 no pull", x.stiff(), 0);
+        pullAll(x, 1, 1);
+        Check.due("19 pulls", x.stiff(), 1);
+        pullAll(x, -1, -1);
+        Check.due("19 pushes", x.stiff(), 0);
+    }
+
     private static void stiffWithoutWays() {
         Check.due("19 all fixed", Check.bench(1, 0, 0, 1, 0).stiff(), 1);
         TensionNet x = rays(0, 1, 0, 0, 1, -1, 0, 0, -1);
@@ -613,5 +652,70 @@ public final class BoundaryHoldTest {
         TensionNet four = string(4);
         four.load(1, 5, 5);
         Check.due("19 not told", four.stiff(), -7);
+    }
+
+    // The largest nets that sixty numbers hold, with the largest numbers, asked everything.
+    private static void largestNets() {
+        int[][] corners = {{20, 20}, {-20, -20}, {20, -19}, {-19, 20}, {-20, 1}, {1, -20}, {19, -1}, {-1, 19}};
+        for (int joints = 5; joints <= 8; joints++) {
+            for (int fixed = 0; fixed <= joints; fixed++) {
+                int members = Math.min(14, (58 - 3 * joints) / 3);
+                long[] numbers = new long[2 + 3 * joints + 3 * members];
+                numbers[0] = joints;
+                for (int j = 0; j < joints; j++) {
+                    numbers[1 + 3 * j] = corners[j][0];
+                    numbers[2 + 3 * j] = corners[j][1];
+                    numbers[3 + 3 * j] = j < fixed ? 1 : 0;
+                }
+                int at = 1 + 3 * joints;
+                numbers[at] = members;
+                for (int m = 0; m < members; m++) {
+                    numbers[at + 1 + 3 * m] = m % joints;
+                    numbers[at + 2 + 3 * m] = (m + 1 + m / joints) % joints;
+                    numbers[at + 3 + 3 * m] = m % 3;
+                }
+                judgeLargest(numbers, joints, members);
+            }
+        }
+    }
+
+    private static void judgeLargest(long[] numbers, int joints, int members) {
+        TensionNet x = Check.bench(numbers);
+        Model model = new Model();
+        model.row(7, 3, numbers.length);
+        for (int i = 0; i < numbers.length; i++) {
+            model.write(7, i, numbers[i]);
+        }
+        Check.due("the largest net", model.net(7), members);
+        for (int m = 0; m < members; m++) {
+            int v = m % 2 == 0 ? 1000 - m : m - 1000;
+            Check.due("its pull", x.pull(m, v), model.pull(m, v));
+        }
+        for (int j = 0; j < joints; j++) {
+            Check.due("its load", x.load(j, 1000, j - 1000), model.load(j, 1000, j - 1000));
+        }
+        Check.due("its stresses", x.stresses(), model.stresses());
+        Check.due("its ways", x.ways(), model.ways());
+        Check.due("its even", x.even(), model.even());
+        Check.due("its borne", x.borne(), model.borne());
+        Check.due("its shaped", x.shaped(), model.shaped());
+        Check.due("its tight", x.tight(), model.tight());
+        Check.due("its stiff", x.stiff(), model.stiff());
+        for (int i = 0; i <= 16; i++) {
+            for (int k = 0; k <= 16; k++) {
+                judgeResult(x, model, x.stress(i, k), model.stress(i, k));
+                judgeResult(x, model, x.way(i, k / 2, k % 2), model.way(i, k / 2, k % 2));
+                Check.due("its told", x.told(i, k), model.told(i, k));
+            }
+            judgeResult(x, model, x.bears(i), model.bears(i));
+            judgeResult(x, model, x.left(i / 2, i % 2), model.left(i / 2, i % 2));
+            judgeResult(x, model, x.shape(i / 2, i % 2), model.shape(i / 2, i % 2));
+        }
+    }
+
+    private static void judgeResult(TensionNet x, Model model, boolean got, boolean want) {
+        Check.due("the largest net tells", got, want);
+        Check.due("its top", Check.top(x).equals(model.result.top), true);
+        Check.due("its bottom", Check.bottom(x).equals(model.result.bottom), true);
     }
 }

@@ -53,6 +53,7 @@ public final class BoundaryRowsTest {
         netOfFewestAndMostJoints();
         netOfFewestAndMostMembers();
         netOfEndsAmongItsJoints();
+        netTakesAnothersPlace();
         netSetsLoadsAndPullsToNought();
         netRefusedLeavesAll();
         Check.end();
@@ -612,6 +613,31 @@ public final class BoundaryRowsTest {
                 numbers[at + 2] = end[1];
                 Check.due("5 " + joints + " joints, ends " + end[0] + ", " + end[1], answer(numbers), end[2]);
             }
+        }
+    }
+
+    // "in place of the one there is": all answers are the new one's, whatever was asked of the old one
+    private static void netTakesAnothersPlace() {
+        TensionNet x = Nets.roof();
+        Check.due("5 a line beside the roof", Check.build(x, 1, 3, 0, 0, 1, 4, 0, 1, 2, 0, 0, 2, 0, 2, 1, 2, 1, 2), 2);
+        Check.due("5 a joint beside them", Check.build(x, 2, 1, 5, 5, 1, 0), 0);
+        int[] slots = {7, 1, 2, 1, 7, 2, 7};
+        for (int slot : slots) {
+            Check.due("5 net", x.net(slot), slot == 2 ? 0 : 2);
+            Check.due("5 joints", x.count(0), slot == 2 ? 1 : 3);
+            Check.due("5 free ones", x.count(1), slot == 2 ? 0 : 1);
+            Check.due("5 members", x.count(2), slot == 2 ? 0 : 2);
+            Check.due("5 stresses", x.stresses(), slot == 1 ? 1 : 0);
+            Check.due("5 ways", x.ways(), slot == 1 ? 1 : 0);
+            Check.due("5 led", x.told(1, 14), slot == 7 ? 1 : 0);
+            Check.due("5 borne", x.borne(), slot == 1 ? 2 : 1);
+            Check.due("5 shaped", x.shaped(), slot == 2);
+            Check.due("5 tight", x.tight(), slot == 1 ? 0 : 1);
+            Check.due("5 stiff", x.stiff(), slot == 1 ? 0 : 1);
+            x.pull(0, 1);
+            Check.due("5 shaped by a pull", x.shaped(), true);
+            x.load(2, 0, 1);
+            Check.due("5 borne with a load", x.borne(), slot == 1 ? 0 : 1);
         }
     }
 
