@@ -39,6 +39,7 @@ public final class BoundaryHoldTest {
         shapeWhereThereIsNone();
         tightIsStrict();
         tightOfCablesAndStruts();
+        tightAfterALargerNet();
         tightOfMoreStressesThanItsCablesNeed();
         tightWithoutStresses();
         tightWithoutCablesAndStruts();
@@ -505,6 +506,20 @@ public final class BoundaryHoldTest {
                 Check.due("18 sorts " + one + ", " + two + " on one side",
                         Check.bench(3, 0, 0, 0, 1, 0, 1, 2, 0, 1, 2, 0, 1, one, 0, 2, two).tight(), one == two ? 0 : 1);
             }
+        }
+    }
+
+    // "A NET of the SLOT's ROW in place of the one there is": no member of a larger one is asked any more
+    private static void tightAfterALargerNet() {
+        for (int sort = 0; sort < 3; sort++) {
+            TensionNet x = Nets.line(1, 1);
+            long[] larger = {4, 0, 0, 1, 1, 0, 0, 2, 0, 0, 3, 0, 1, 3, 0, 1, 1, 1, 2, 1, 2, 3, sort};
+            Check.due("18 a larger net", Check.build(x, 0, larger), 3);
+            Check.due("18 with sort " + sort + " at its end", x.tight(), sort == 2 ? 0 : 1);
+            Check.due("18 the smaller net", x.net(7), 2);
+            Check.due("18 its cables can be tight", x.tight(), 1);
+            Check.due("18 the larger net again", x.net(0), 3);
+            Check.due("18 still with sort " + sort, x.tight(), sort == 2 ? 0 : 1);
         }
     }
 
