@@ -644,6 +644,7 @@ public final class TensionNet {
         }
 
         void trim(int length) {
+            // What fit answers, written out: trim already stands at the end of the longest chain of calls.
             size = length < parts.length ? length : parts.length;
             for (int i = size - 1; i >= 0 && parts[i] == 0; i--) {
                 size = i;
